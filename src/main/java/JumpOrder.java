@@ -167,8 +167,9 @@ public final class JumpOrder {
             for (int row = ROWS - 1; row >= 0; row--) {
                 Place next = here.next[row];
                 while (next != null && next.isAheadOf(score, word)) {
-                    step(row, next);
-                    next = here.next[row];
+                    position += here.far[row];
+                    here = next;
+                    next = next.next[row];
                 }
             }
             return position;
@@ -253,15 +254,9 @@ public final class JumpOrder {
             }
             Place next = here.next[row];
             while (next != null && position + here.far[row] < target) {
-                step(row, next);
-                next = here.next[row];
-            }
-        }
-
-        private void step(int row, Place next) {
-            if (row >= 0 && row < ROWS) {
                 position += here.far[row];
                 here = next;
+                next = next.next[row];
             }
         }
 
