@@ -1,6 +1,15 @@
 /** Counts the answers of a test that are not the ones that are due, and prints them. */
 final class Checks {
+    private static final long MOST_MILLISECONDS = 5 * 60 * 1000;
+
     private int wrong = 0;
+
+    // A call that fails to end must fail its test, not hold it up for ever.
+    Checks() {
+        Thread watch = new Thread(Checks::endLateTest);
+        watch.setDaemon(true);
+        watch.start();
+    }
 
     void due(String call, long got, long want) {
         if (got != want) {
@@ -25,5 +34,15 @@ final class Checks {
         if (wrong != 0) {
             System.exit(1);
         }
+    }
+
+    private static void endLateTest() {
+        try {
+            Thread.sleep(MOST_MILLISECONDS);
+        } catch (InterruptedException e) {
+            return;
+        }
+        System.out.println("a call failed to end");
+        Runtime.getRuntime().halt(1);
     }
 }
