@@ -4,11 +4,12 @@ import java.util.HashMap;
 import java.util.List;
 import java.util.Map;
 
-/** Long mixed runs of calls, each answer compared with that of a plain model that sorts anew every time. */
+/** Mixed runs of 512 calls, each answer compared with that of a plain model that sorts anew every time. */
 public final class ModelTest {
     private static final int RUNS = 600;
     // The look at the end takes the last 8 of the 512 calls that an object answers.
     private static final int CALLS = 504;
+    private static final int LATER_CALLS = 20000;
     private static final long[] EDGE_SCORES = {
         Long.MIN_VALUE, Long.MIN_VALUE + 1, Integer.MIN_VALUE, -1L, 0L, 1L, Integer.MAX_VALUE, 1L << 32,
         Long.MAX_VALUE - 1, Long.MAX_VALUE};
@@ -20,6 +21,8 @@ public final class ModelTest {
     private final Model model = new Model();
     private final int orders;
     private final int members;
+    // A run begins with this many sets, so that some orders are long while there are calls left.
+    private final int firstSets;
     private final int setsInTen;
     private long seed;
 
@@ -28,6 +31,7 @@ public final class ModelTest {
         this.seed = run * 7919L + 1;
         this.orders = 1 + run % 4;
         this.members = new int[] {5, 12, 40, 130, 400, 1000}[run % 6];
+        this.firstSets = new int[] {0, 0, 100, 250, 400}[run % 5];
         this.setsInTen = 2 + run % 7;
     }
 
@@ -36,43 +40,53 @@ public final class ModelTest {
         for (int run = 0; run < RUNS && checks.allRight(); run++) {
             ModelTest test = new ModelTest(checks, run);
             for (int call = 0; call < CALLS && checks.allRight(); call++) {
-                test.callOnce("run " + run + ", call " + call + ": ");
+                test.callOnce("run " + run + ", call " + call + ": ", call < test.firstSets);
             }
             test.compareAll("run " + run + ", end: ");
         }
-        beyondTheLastCall(checks);
+        laterCallsEnd(checks);
         checks.end();
     }
 
     /**
-     * The document leaves free what an object answers after 512 calls, but it must neither throw nor fail to end.
-     * This class goes on as before, and only so can an order be full, so the answers are compared all the same.
+     * What an object answers after its 512th call is free, so no answer is looked at here; but even then a call must
+     * neither throw nor fail to end, and only then can an order have all 1000 members.
      */
-    private static void beyondTheLastCall(Checks checks) {
+    private static void laterCallsEnd(Checks checks) {
         ModelTest test = new ModelTest(checks, 5 + 6 * 4);
-        for (int call = 0; call < 20000 && checks.allRight(); call++) {
-            test.callOnce("long run, call " + call + ": ");
+        for (int call = 0; call < LATER_CALLS; call++) {
+            test.callWithFreeAnswer();
         }
-        test.compareAll("long run, end: ");
-        test.fillAll("full orders: ");
-        test.compareAll("full orders: ");
-    }
-
-    private void fillAll(String where) {
-        for (int order = 0; order < 4; order++) {
-            for (int member = 0; member < 1000; member++) {
-                long score = member * 7919L % 11;
-                checks.due(where + "set", real.set(order, member, score), model.set(order, member, score));
-            }
+        for (int call = 0; call < 4000; call++) {
+            test.real.set(call % 4, call / 4, test.drawnScore());
+        }
+        for (int call = 0; call < LATER_CALLS; call++) {
+            test.callWithFreeAnswer();
         }
     }
 
-    private void callOnce(String where) {
+    private void callWithFreeAnswer() {
+        int order = drawnOrder();
+        switch (draw(9)) {
+            case 0 -> real.set(order, drawnMember(), drawnScore());
+            case 1 -> real.remove(order, drawnMember());
+            // Seldom, so that orders stay long.
+            case 2 -> real.clear(draw(50) == 0 ? order : 4);
+            case 3 -> real.score(order, drawnMember());
+            case 4 -> real.rank(order, drawnMember());
+            case 5 -> real.at(order, drawnNumber());
+            case 6 -> real.below(order, drawnScore(), draw(2) == 0);
+            case 7 -> real.size(order);
+            default -> real.walk(order, drawnNumber(), drawnNumber());
+        }
+    }
+
+    private void callOnce(String where, boolean set) {
         int order = drawnOrder();
         int member = drawnMember();
         long score = drawnScore();
         String args = "(" + order + ", " + member + ", " + score + ")";
-        if (draw(10) < setsInTen) {
+        if (set || draw(10) < setsInTen) {
             checks.due(where + "set" + args, real.set(order, member, score), model.set(order, member, score));
             return;
         }
