@@ -7,7 +7,7 @@ import java.util.TreeSet;
 import java.util.regex.Matcher;
 import java.util.regex.Pattern;
 
-/** The example of README.md, line by line: each call gives the answer that stands behind it, and no call is left out. */
+/** The example of README.md: each call gives the answer that stands behind it, and no call is left out. */
 public final class ReadmeTest {
     private static final Pattern EXAMPLE = Pattern.compile("```java\n(.*?)```", Pattern.DOTALL);
     private static final Pattern CALL = Pattern.compile("x\\.(\\w+)\\((.*?)\\); +// (JumpOrder\\.NONE|-?\\d+)\\b.*");
